@@ -68,7 +68,7 @@ public final class ExtensionStarts {
             return UNKNOWN;
         }
         Type below = types[type];
-        if (below.shared && !types[face].shared || below.faces.has(face)) {
+        if ((below.shared && !types[face].shared) || below.faces.has(face)) {
             return STATE;
         }
         if (below.faces.count >= MOST_FACES) {
@@ -86,7 +86,7 @@ public final class ExtensionStarts {
         if (!isType(type)) {
             return UNKNOWN;
         }
-        if (!isField(f) || constant && !isNumber(v)) {
+        if (!isField(f) || (constant && !isNumber(v))) {
             return OUTSIDE;
         }
         if (!constant) {
@@ -295,10 +295,10 @@ public final class ExtensionStarts {
             return UNKNOWN;
         }
         boolean ofField = how == ASKING || how == SETTING;
-        if (!within(how, MAKING, ROW) || ofField && !isField(f) || how == SETTING && !isNumber(v)) {
+        if (!within(how, MAKING, ROW) || (ofField && !isField(f)) || (how == SETTING && !isNumber(v))) {
             return OUTSIDE;
         }
-        if (how == MAKING && !isClass(type) || how == SETTING && !canBeSet(type, f)) {
+        if ((how == MAKING && !isClass(type)) || (how == SETTING && !canBeSet(type, f))) {
             return STATE;
         }
         // No object has so many USES within its 512 calls; beyond them the answer is free.
@@ -510,7 +510,7 @@ public final class ExtensionStarts {
         }
 
         boolean has(int type) {
-            return (bits >> type & 1) != 0;
+            return ((bits >> type) & 1) != 0;
         }
 
         void addOnce(int type) {

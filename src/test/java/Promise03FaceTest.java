@@ -6,6 +6,7 @@ public final class Promise03FaceTest {
         countsAndRefusals();
         sharing();
         facesAddedLater();
+        orderChangesLater();
         CHECKS.end();
     }
 
@@ -61,5 +62,26 @@ public final class Promise03FaceTest {
         CHECKS.due("made", Acts.make(x, 0, 3), 1);
         CHECKS.due("full face by the new way", x.told(0, 0, 0), Acts.AWAKE);
         CHECKS.due("the face between is not full", x.told(0, 1, 0), Acts.ASLEEP);
+    }
+
+    /** FACE 1 comes above FACE 2 when both are above the last of 16 TYPES: now it starts before FACE 0. */
+    private static void orderChangesLater() {
+        ExtensionStarts x = new ExtensionStarts();
+        for (int f = 0; f < 3; f++) {
+            x.type(Acts.FULL_FACE, Acts.NONE, false);
+        }
+        for (int t = 3; t < 16; t++) {
+            x.type(Acts.CLASS, Acts.NONE, false);
+        }
+        x.face(15, 2);
+        x.face(15, 0);
+        x.face(15, 1);
+        Acts.make(x, 0, 15);
+        CHECKS.due("face(2, 1)", x.face(2, 1), 1);
+        Acts.make(x, 1, 15);
+        int[] due = {2, 0, 1, 15, 1, 2, 0, 15};
+        for (int i = 0; i < due.length; i++) {
+            CHECKS.due("start(" + i + ", 0)", x.start(i, 0), due[i]);
+        }
     }
 }

@@ -41,6 +41,10 @@ public final class Promise12StepsTest {
         CHECKS.due("restart leaves steps", x.steps(0, 1), 2000);
         CHECKS.failureDue("not so many left", x, Acts.make(x, 0, 0), Acts.TIRED);
         CHECKS.due("none goes", x.steps(0, 1), 1);
+        x.restart(0);
+        x.steps(0, 1004);
+        CHECKS.due("just so many left", Acts.make(x, 0, 0), 1);
+        CHECKS.due("all go", x.steps(0, 0), 0);
     }
 
     private static void tired() {
