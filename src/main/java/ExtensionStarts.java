@@ -379,8 +379,9 @@ public final class ExtensionStarts {
     }
 
     private int askAndSet(int type, int f, int v) {
-        int failure = ask(type, f, 0);
-        return failure == FINE ? write(homeOf(type, f), f, v) : failure;
+        int home = homeOf(type, f);
+        int failure = home == NONE ? NOT_FOUND : ask(type, f, 0);
+        return failure == FINE ? write(home, f, v) : failure;
     }
 
     private int makeThing(int type, int depth) {
